@@ -15,6 +15,7 @@ public final class PromiseTest {
         contains();
         keep();
         goneStaysGone();
+        manyRowsAreKept();
         reader();
         readerAsks();
         filter();
@@ -216,6 +217,25 @@ public final class PromiseTest {
         flip(x, 0, 2);
         Due.answer("7: 30 are kept, and one more came", x.told(2), 5);
         Due.answer("7: the first of them", x.row(4, 0), 5);
+    }
+
+    /** As many rows as 512 calls leave room for. */
+    private static void manyRowsAreKept() {
+        ChangeStream x = withFacts(20);
+        x.keep(30);
+        for (int transaction = 1; transaction <= 22; transaction++) {
+            for (int fact = 0; fact < 20; fact++) {
+                x.change(fact, transaction % 2 == 1);
+            }
+            x.commit();
+        }
+        Due.answer("7: rows in all", x.told(3), 440);
+        for (int number : new int[] {0, 19, 20, 221, 439}) {
+            Due.answer("7: transaction of row " + number, x.row(number, 0), number / 20 + 1);
+            Due.answer("7: fact of row " + number, x.row(number, 1), number % 20);
+        }
+        Due.answer("7: a reader of the first", x.next(x.reader(1, NONE, NONE)), 0);
+        Due.answer("7: a reader of the last", x.next(x.reader(22, NONE, NONE)), 420);
     }
 
     private static void reader() {
