@@ -60,10 +60,10 @@ public final class ModelTest {
             }
             case 7 -> {
                 int sort = near(0, 4), number = near(-3, 12);
-                same(run, i, "filter", () -> filter(x, reader, sort, number), () -> m.filter(reader, sort, number));
+                same(run, i, "filter", () -> Calls.filter(x, reader, sort, number), () -> m.filter(reader, sort, number));
             }
             case 8 -> { int n = near(1, 20); same(run, i, "throttle", () -> x.throttle(reader, n), () -> m.throttle(reader, n)); }
-            case 9 -> same(run, i, "right", () -> right(x, reader, fact, on), () -> m.right(reader, fact, on));
+            case 9 -> same(run, i, "right", () -> Calls.right(x, reader, fact, on), () -> m.right(reader, fact, on));
             case 10 -> same(run, i, "next", () -> x.next(reader), () -> m.next(reader));
             case 11 -> {
                 int number = near(Math.max(0, transactions - 5), transactions);
@@ -91,16 +91,6 @@ public final class ModelTest {
     private static boolean mayBe(String answer) {
         return !answer.startsWith("throws.") || answer.equals("throws.IllegalArgumentException")
             || answer.equals("throws.IllegalStateException");
-    }
-
-    private static long filter(ChangeStream x, int reader, int kind, int number) {
-        x.filter(reader, kind, number);
-        return 0;
-    }
-
-    private static long right(ChangeStream x, int reader, int fact, boolean on) {
-        x.right(reader, fact, on);
-        return 0;
     }
 
     /** Mostly a number of least .. most, now and then one beside them or far away. */

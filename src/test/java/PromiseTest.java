@@ -300,13 +300,13 @@ public final class PromiseTest {
         seenThrough(4, Integer.MIN_VALUE, 0);
         ChangeStream x = withFacts(1);
         x.reader(1, NONE, NONE);
-        Due.badArgument("9: kind 5", () -> put(x, 0, 5, 0));
-        Due.badArgument("9: kind -1", () -> put(x, 0, -1, 0));
-        Due.badArgument("9: reader 1", () -> put(x, 1, 0, 0));
-        Due.badArgument("9: reader -1", () -> put(x, -1, 0, 0));
+        Due.badArgument("9: kind 5", () -> Calls.filter(x, 0, 5, 0));
+        Due.badArgument("9: kind -1", () -> Calls.filter(x, 0, -1, 0));
+        Due.badArgument("9: reader 1", () -> Calls.filter(x, 1, 0, 0));
+        Due.badArgument("9: reader -1", () -> Calls.filter(x, -1, 0, 0));
         for (int far : FAR) {
-            Due.badArgument("9: reader far", () -> put(x, far, 0, 0));
-            Due.badArgument("9: kind far", () -> put(x, 0, far, 0));
+            Due.badArgument("9: reader far", () -> Calls.filter(x, far, 0, 0));
+            Due.badArgument("9: kind far", () -> Calls.filter(x, 0, far, 0));
         }
     }
 
@@ -390,19 +390,19 @@ public final class PromiseTest {
         for (int i = 0; i < 40; i++) {
             x.right(0, 0, i % 2 == 0);
         }
-        Due.badState("11: the 41st", () -> give(x, 0, 1, false));
-        Due.badArgument("11: the argument is looked at first", () -> give(x, 0, 2, false));
-        Due.answer("11: another reader", give(x, 1, 1, false), 0);
+        Due.badState("11: the 41st", () -> Calls.right(x, 0, 1, false));
+        Due.badArgument("11: the argument is looked at first", () -> Calls.right(x, 0, 2, false));
+        Due.answer("11: another reader", Calls.right(x, 1, 1, false), 0);
         bringIn(x, 2);
         seen(x, 0, 1);
         seen(x, 1, 0);
-        Due.badArgument("11: reader 2", () -> give(x, 2, 0, true));
-        Due.badArgument("11: reader -1", () -> give(x, -1, 0, true));
-        Due.badArgument("11: fact 2", () -> give(x, 1, 2, true));
-        Due.badArgument("11: fact -1", () -> give(x, 1, -1, true));
+        Due.badArgument("11: reader 2", () -> Calls.right(x, 2, 0, true));
+        Due.badArgument("11: reader -1", () -> Calls.right(x, -1, 0, true));
+        Due.badArgument("11: fact 2", () -> Calls.right(x, 1, 2, true));
+        Due.badArgument("11: fact -1", () -> Calls.right(x, 1, -1, true));
         for (int far : FAR) {
-            Due.badArgument("11: reader far", () -> give(x, far, 0, true));
-            Due.badArgument("11: fact far", () -> give(x, 1, far, true));
+            Due.badArgument("11: reader far", () -> Calls.right(x, far, 0, true));
+            Due.badArgument("11: fact far", () -> Calls.right(x, 1, far, true));
         }
     }
 
@@ -663,9 +663,9 @@ public final class PromiseTest {
         Due.badArgument("change", () -> x.change(2, true));
         Due.badArgument("keep", () -> x.keep(31));
         Due.badArgument("reader", () -> x.reader(1, 0, 16));
-        Due.badArgument("filter", () -> put(x, 0, 5, 0));
+        Due.badArgument("filter", () -> Calls.filter(x, 0, 5, 0));
         Due.badArgument("throttle", () -> x.throttle(0, 21));
-        Due.badArgument("right", () -> give(x, 0, 2, false));
+        Due.badArgument("right", () -> Calls.right(x, 0, 2, false));
         Due.badArgument("done", () -> x.done(0, 2));
         int[] told = {2, 1, 1, 2, 1, 1};
         for (int what = 0; what < told.length; what++) {
@@ -729,15 +729,5 @@ public final class PromiseTest {
         x.filter(0, kind, number);
         seen(x, 0, rows);
         Due.answer("9: no failures", x.about(0, 3), 0);
-    }
-
-    private static long put(ChangeStream x, int reader, int kind, int number) {
-        x.filter(reader, kind, number);
-        return 0;
-    }
-
-    private static long give(ChangeStream x, int reader, int fact, boolean on) {
-        x.right(reader, fact, on);
-        return 0;
     }
 }
