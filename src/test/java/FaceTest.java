@@ -14,9 +14,12 @@ public final class FaceTest {
     public static void main(String[] args) {
         Class<?> face = ChangeStream.class;
         Due.answer("modifiers", face.getModifiers(), Modifier.PUBLIC | Modifier.FINAL);
-        Due.answer("NONE", ChangeStream.NONE, -1);
-        Due.answer("WAIT", ChangeStream.WAIT, -2);
-        Due.answer("GAP", ChangeStream.GAP, -3);
+        Due.text("superclass", face.getSuperclass().getName(), "java.lang.Object");
+        Due.answer("interfaces", face.getInterfaces().length, 0);
+        Due.answer("type parameters", face.getTypeParameters().length, 0);
+        Due.text("NONE", nameOf(-1), "NONE");
+        Due.text("WAIT", nameOf(-2), "WAIT");
+        Due.text("GAP", nameOf(-3), "GAP");
         Due.text("constructors", constructors(face).toString(), "[public ()]");
         Due.text("fields", openFields(face).toString(),
             "[public static final int GAP, public static final int NONE, public static final int WAIT]");
@@ -24,6 +27,16 @@ public final class FaceTest {
         privateNamesDiffer(face);
         classesInsideAreStatic(face);
         Due.end();
+    }
+
+    /** A switch, which takes no field but a constant that the compiler knows. */
+    private static String nameOf(int answer) {
+        switch (answer) {
+            case ChangeStream.NONE: return "NONE";
+            case ChangeStream.WAIT: return "WAIT";
+            case ChangeStream.GAP: return "GAP";
+            default: return "a number";
+        }
     }
 
     private static Set<String> dueMethods() {

@@ -13,6 +13,7 @@ public final class KeepTest {
         asManyKeptAsThereAre();
         olderOnesAreGoneAtOnce();
         goneStaysGone();
+        readersOfWhatIsGone();
         moreAreKeptFromNowOn();
         transactionsWithoutRowsCount();
         nothingKeptHasRows();
@@ -128,6 +129,24 @@ public final class KeepTest {
         Due.answer("7: LEAST does not fall", x.told(2), 4);
         Due.answer("7: a row that was gone", x.row(2, 0), NONE);
         Due.answer("7: a row that was kept", x.row(3, 0), 4);
+    }
+
+    /** Neither a reader that is too late nor one that asks for its rows again gets rows back by a larger keep. */
+    private static void readersOfWhatIsGone() {
+        ChangeStream x = Streams.withReader(1);
+        x.reader(1, NONE, NONE);
+        Streams.flip(x, 0, 5);
+        Streams.takes(x, 0, 0, 5);
+        x.keep(2);
+        x.keep(30);
+        Due.answer("7: a row that is taken and gone", x.row(0, 0), NONE);
+        Due.answer("7: its reader asks for five again", x.resume(0), 5);
+        Due.answer("7: and is too late", x.next(0), Streams.GAP);
+        Streams.sees(x, 0, 3, 4);
+        Due.answer("7: a reader that was too late is so still", x.next(1), Streams.GAP);
+        Streams.about("7: by three", x, 1, 0, 4, 3, 0, 0);
+        Due.answer("7: and so is a new one", x.next(x.reader(3, NONE, NONE)), Streams.GAP);
+        Streams.sees(x, 2, 3, 4);
     }
 
     /** Promise 7: "So many transactions' rows are KEPT from now on" */

@@ -6,6 +6,7 @@ public final class NextTest {
 
     public static void main(String[] args) {
         eachRowOnce();
+        onceUntilAskedForAgain();
         noneWithoutRows();
         noneMovesOn();
         noneBehindRowsThatAreNotSeen();
@@ -63,6 +64,28 @@ public final class NextTest {
             Due.answer("12: its transaction", x.about(0, 1), x.row(number, 0));
         }
         Due.answer("12: none more", x.next(0), NONE);
+    }
+
+    /** What it is: "each transaction's rows in order, exactly once until they are asked for again" */
+    private static void onceUntilAskedForAgain() {
+        ChangeStream x = Streams.withReader(3);
+        x.reader(1, NONE, NONE);
+        x.throttle(0, 2);
+        for (int row = 0; row < 60; row += 3) {
+            Streams.changeAll(x, 3, row % 2 == 0);
+            int transaction = x.commit();
+            Streams.takes(x, 0, row, row + 2);
+            Due.answer("12: the third waits", x.next(0), WAIT);
+            Due.answer("12: done", x.done(0, transaction), 2);
+            Streams.sees(x, 0, row + 2);
+            Due.answer("12: done", x.done(0, transaction), 1);
+            Streams.sees(x, 1, row, row + 1, row + 2);
+            Due.answer("12: asked for again", x.resume(1), 3);
+            Streams.sees(x, 1, row, row + 1, row + 2);
+            Due.answer("12: done", x.done(1, transaction), 3);
+        }
+        Due.answer("12: each once", x.about(0, 4), 60);
+        Due.answer("12: each twice", x.about(1, 4), 120);
     }
 
     /** Promise 12: "NONE if there is none" */
